@@ -39,9 +39,9 @@ public final class NearlyBought {
     private final State image = new State();
     private final History history = new History();
     private final Trade trade = new Trade();
-    private final Outlook outlook = new Outlook(trade);
-    private final Guess guess = new Guess(trade);
-    private final Bargain bargain = new Bargain(trade);
+    private final Outlook outlook = new Outlook();
+    private final Guess guess = new Guess();
+    private final Bargain bargain = new Bargain();
     private City draft = new City();
     private int lawCount = 0;
     private int lawHolding = NONE;
@@ -408,28 +408,28 @@ public final class NearlyBought {
         if (!trade.hasCity() || n < 0 || n > MOST_AHEAD) {
             return NONE;
         }
-        return outlook.behind(now, n).treasury;
+        return outlook.behind(trade, now, n).treasury;
     }
 
     public int purse(int buyer, int n) {
         if (!trade.isBuyer(buyer) || n < 0 || n > MOST_AHEAD) {
             return NONE;
         }
-        return outlook.behind(now, n).purse[buyer];
+        return outlook.behind(trade, now, n).purse[buyer];
     }
 
     public int whose(int thing, int n) {
         if (!trade.isThing(thing) || n < 0 || n > MOST_AHEAD) {
             return NONE;
         }
-        return outlook.behind(now, n).owner[thing];
+        return outlook.behind(trade, now, n).owner[thing];
     }
 
     public int seek(int buyer, int n, int what) {
         if (!trade.isBuyer(buyer) || now.holds[buyer] != NONE || n < 1 || n > 4 || what < 0 || what > 1) {
             return NONE;
         }
-        bargain.seekOrders(now, buyer, n);
+        bargain.seekOrders(trade, now, buyer, n);
         return what == 0 ? bargain.bestWorth : bargain.bestOrder;
     }
 
@@ -437,7 +437,7 @@ public final class NearlyBought {
         if (!trade.hasCity() || n < 1 || n > MOST_AHEAD || what < 0 || what > 1) {
             return NONE;
         }
-        outlook.seekRate(now, n);
+        outlook.seekRate(trade, now, n);
         return what == 0 ? outlook.best : outlook.reached;
     }
 
@@ -445,7 +445,7 @@ public final class NearlyBought {
         if (!trade.isThing(thing) || now.sold[thing] == 1 || what < 0 || what > 1) {
             return NONE;
         }
-        outlook.seekWeight(now, thing);
+        outlook.seekWeight(trade, now, thing);
         return what == 0 ? outlook.best : outlook.reached;
     }
 
@@ -460,7 +460,7 @@ public final class NearlyBought {
         if (!trade.isBuyer(buyer) || i < NONE || i >= DESIRES) {
             return NONE;
         }
-        guess.foretell(buyer, guess.latestSeen());
+        guess.foretell(trade, buyer, guess.latestSeen());
         return nthOrCount(guess.fitting(), i);
     }
 
@@ -486,7 +486,7 @@ public final class NearlyBought {
         if (!trade.isBuyer(buyer)) {
             return NONE;
         }
-        guess.foretell(buyer, MOST_AHEAD);
+        guess.foretell(trade, buyer, MOST_AHEAD);
         return guess.hoursToAsk();
     }
 
@@ -494,7 +494,7 @@ public final class NearlyBought {
         if (!canDeal(buyer, thing) || x < 0 || x > 3 || y < 0 || y > 2 || what < 0 || what > 1) {
             return HIDDEN;
         }
-        bargain.sitDown(now, buyer, thing);
+        bargain.sitDown(trade, now, buyer, thing);
         return what == 0 ? bargain.sellerHas(x, y) : bargain.buyerHas(x, y);
     }
 
@@ -502,7 +502,7 @@ public final class NearlyBought {
         if (!canDeal(buyer, thing) || i < NONE) {
             return NONE;
         }
-        bargain.sitDown(now, buyer, thing);
+        bargain.sitDown(trade, now, buyer, thing);
         return bargain.nthRest(i);
     }
 
@@ -514,7 +514,7 @@ public final class NearlyBought {
         if (!trade.hasCity() || n < 0 || n > 6 || v < 0 || v > 999 || chance < 0 || chance > 100) {
             return NONE;
         }
-        return outlook.partsReaching(now, n, 1000000000, v, chance);
+        return outlook.partsReaching(trade, now, n, 1000000000, v, chance);
     }
 
     public int shares(int buyer, int c) {
@@ -1681,15 +1681,13 @@ public final class NearlyBought {
         static final int MOST_TO_SELL = 40;
         static final int ALL_SHOPS = (1 << MOST_SHOPS) - 1;
 
-        final Trade trade;
         final State ahead = new State();
         // By how many HOURS are left.
         final State[] branches = new State[MOST_BRANCHED + 1];
         int best = NONE;
         int reached = NONE;
 
-        Outlook(Trade trade) {
-            this.trade = trade;
+        Outlook() {
             for (int i = 0; i < branches.length; i++) {
                 branches[i] = new State();
             }
@@ -1700,7 +1698,7 @@ public final class NearlyBought {
             return ahead;
         }
 
-        State behind(State state, int hours) {
+        State behind(Trade trade, State state, int hours) {
             ahead.copyFrom(state);
             for (int i = 0; i < hours; i++) {
                 trade.passHour(ahead);
@@ -1709,7 +1707,7 @@ public final class NearlyBought {
         }
 
         /** best: the RATE by which TREASURY is most; reached: that TREASURY. */
-        void seekRate(State state, int hours) {
+        void seekRate(Trade trade, State state, int hours) {
             best = NONE;
             reached = NONE;
             for (int rate = 0; rate <= 8; rate++) {
@@ -1726,12 +1724,12 @@ public final class NearlyBought {
         }
 
         /** best: the WEIGHT by which the THING is SOLD soonest; reached: in how many HOURS. */
-        void seekWeight(State state, int thing) {
+        void seekWeight(Trade trade, State state, int thing) {
             best = NONE;
             reached = NONE;
             int most = MOST_TO_SELL;
             for (int weight = 0; weight <= 9; weight++) {
-                int hours = hoursToSell(state, thing, weight, most);
+                int hours = hoursToSell(trade, state, thing, weight, most);
                 if (hours != NONE) {
                     best = weight;
                     reached = hours;
@@ -1740,7 +1738,7 @@ public final class NearlyBought {
             }
         }
 
-        private int hoursToSell(State state, int thing, int weight, int most) {
+        private int hoursToSell(Trade trade, State state, int thing, int weight, int most) {
             ahead.copyFrom(state);
             ahead.weight[thing] = weight;
             for (int hours = 1; hours <= most; hours++) {
@@ -1753,7 +1751,7 @@ public final class NearlyBought {
         }
 
         /** Of so many parts those by which TREASURY and all that is DUE are v or more behind the HOURS. */
-        int partsReaching(State from, int hours, int parts, int v, int chance) {
+        int partsReaching(Trade trade, State from, int hours, int parts, int v, int chance) {
             if (hours <= 0 || hours >= branches.length) {
                 return from.treasury + from.dueOfAll() >= v ? parts : 0;
             }
@@ -1765,12 +1763,12 @@ public final class NearlyBought {
                 next.away = ALL_SHOPS;
                 trade.passHour(next);
                 next.away = from.away;
-                sum += partsReaching(next, hours - 1, away, v, chance);
+                sum += partsReaching(trade, next, hours - 1, away, v, chance);
             }
             if (parts > away) {
                 next.copyFrom(from);
                 trade.passHour(next);
-                sum += partsReaching(next, hours - 1, parts - away, v, chance);
+                sum += partsReaching(trade, next, hours - 1, parts - away, v, chance);
             }
             return sum;
         }
@@ -1780,7 +1778,6 @@ public final class NearlyBought {
     private static final class Guess {
         static final int ROW = MOST_AHEAD + 1;
 
-        final Trade trade;
         final State ahead = new State();
         final int[] seenHours = new int[MOST_SEEN];
         final int[] seenValue = new int[MOST_SEEN];
@@ -1788,10 +1785,6 @@ public final class NearlyBought {
         // TREASURY and all that is DUE, by DESIRE and HOURS.
         final int[] totals = new int[DESIRES * ROW];
         int seenCount = 0;
-
-        Guess(Trade trade) {
-            this.trade = trade;
-        }
 
         void forget() {
             seenCount = 0;
@@ -1816,7 +1809,7 @@ public final class NearlyBought {
         }
 
         /** Fills totals for so many HOURS, were this BUYER told with each DESIRE in turn. */
-        void foretell(int buyer, int hours) {
+        void foretell(Trade trade, int buyer, int hours) {
             for (int desire = 0; desire < DESIRES; desire++) {
                 ahead.beginAs(trade.city);
                 ahead.desire[buyer] = desire;
@@ -1885,7 +1878,6 @@ public final class NearlyBought {
         static final int OFFERS = 4;
         static final int ANSWERS = 3;
 
-        final Trade trade;
         final int[] chance = new int[MOST_THINGS];
         final int[] liking = new int[MOST_THINGS];
         final int[] due = new int[MOST_THINGS];
@@ -1893,42 +1885,39 @@ public final class NearlyBought {
         int bestWorth = 0;
         int bestOrder = 1;
         int dealtThing = 0;
+        int dealtPrice = 0;
 
-        Bargain(Trade trade) {
-            this.trade = trade;
-        }
-
-        void seekOrders(State state, int buyer, int longest) {
-            int taken = 0;
+        void seekOrders(Trade trade, State state, int buyer, int longest) {
+            int free = 0;
             for (int t = 0; t < trade.city.things; t++) {
-                lookAt(state, buyer, t);
-                if (state.owner[t] != NONE) {
-                    taken |= 1 << t;
+                lookAt(trade, state, buyer, t);
+                if (state.owner[t] == NONE) {
+                    free |= 1 << t;
                 }
             }
             bestWorth = 0;
             bestOrder = 1;
             // Numbers rise this way, so that the least of several comes first.
             for (int length = 1; length <= longest; length++) {
-                tryOrders(length, 0, taken, 1);
+                tryOrders(length, 0, free, 1);
             }
         }
 
-        private void lookAt(State state, int buyer, int thing) {
+        private void lookAt(Trade trade, State state, int buyer, int thing) {
             chance[thing] = 10 + 8 * state.weight[thing];
             liking[thing] = trade.liked(state, buyer, thing);
             due[thing] = trade.dueIfPutBack(state, buyer, thing);
         }
 
-        private void tryOrders(int length, int placed, int taken, int number) {
+        private void tryOrders(int length, int placed, int free, int number) {
             if (placed >= length || placed >= MOST_ORDERED) {
                 weigh(placed, number);
                 return;
             }
-            for (int t = 0; t < trade.city.things; t++) {
-                if ((taken >> t & 1) == 0) {
+            for (int t = 0; t < MOST_THINGS; t++) {
+                if ((free >> t & 1) == 1) {
                     order[placed] = t;
-                    tryOrders(length, placed + 1, taken | 1 << t, number * 10 + t);
+                    tryOrders(length, placed + 1, free & ~(1 << t), number * 10 + t);
                 }
             }
         }
@@ -1946,15 +1935,15 @@ public final class NearlyBought {
         }
 
         /** The BUYER and the THING of which sellerHas, buyerHas and nthRest tell then. */
-        void sitDown(State state, int buyer, int thing) {
+        void sitDown(Trade trade, State state, int buyer, int thing) {
             dealtThing = thing;
-            lookAt(state, buyer, thing);
+            dealtPrice = trade.city.priceOf(thing);
+            lookAt(trade, state, buyer, thing);
         }
 
         int sellerHas(int x, int y) {
             if (y == 1) {
-                int price = trade.city.priceOf(dealtThing);
-                return price - price * x / 10;
+                return dealtPrice - dealtPrice * x / 10;
             }
             return y == 2 ? 1 : 0;
         }

@@ -115,8 +115,8 @@ final class Recognizer {
             if (at < 0) {
                 return false;
             }
-            int digits = "h by pg".indexOf(text.charAt(at - 1)) / 2;
-            digits = digits == 0 ? 0 : text.charAt(at - 1) == 'b' || text.charAt(at - 1) == 'y' ? 1 : 2;
+            char what = text.charAt(at - 1);
+            int digits = what == 'h' ? 0 : what == 'b' || what == 'y' ? 1 : 2;
             for (int i = 0; i < digits; i++) {
                 at = sign(at, "0123456789");
                 if (at < 0) {
