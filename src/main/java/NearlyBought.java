@@ -1445,14 +1445,18 @@ public final class NearlyBought {
             return Math.max(0, Math.min(99, worth));
         }
 
-        /** What would be due, did he put it BACK now. */
+        /** What would be due, did he put it BACK now: the same whether the CLERK looks AWAY or not. */
         int dueIfPutBack(State state, int buyer, int thing) {
             int kind = city.kindOf(buyer);
-            if (kind == THIEF || (state.away >> city.shopOf(thing) & 1) == 1) {
+            if (kind == THIEF) {
                 return 0;
             }
             int due = city.priceOf(thing) * state.rate / 8;
             return kind == WITH_A_STICK ? due / 2 : due;
+        }
+
+        private boolean looksAway(State state, int shop) {
+            return (state.away >> shop & 1) == 1;
         }
 
         boolean isAfraid(State state, int buyer) {
@@ -1557,7 +1561,7 @@ public final class NearlyBought {
             state.owner[thing] = NONE;
             state.held[thing] = 0;
             state.holds[buyer] = NONE;
-            int due = dueIfPutBack(state, buyer, thing);
+            int due = looksAway(state, city.shopOf(thing)) ? 0 : dueIfPutBack(state, buyer, thing);
             if (due > 0) {
                 state.writeBill(buyer, thing, due);
             }

@@ -14,8 +14,11 @@ public final class ChoiceTest {
         seek(x, 1, 4, 13500, 101);
         // With a stick 5 would be due: 10,000 of the first alone; the second is worth less than nothing.
         seek(x, 2, 2, 10000, 10);
+        // What would be due is the same while the CLERK looks AWAY.
         x.clerk(0);
-        seek(x, 0, 2, 13500, 101);
+        seek(x, 0, 4, 7500, 10);
+        seek(x, 1, 2, 13500, 101);
+        seek(x, 2, 2, 10000, 10);
         x.clerk(0);
         x.rate(0);
         seek(x, 0, 2, 13500, 101);
@@ -59,7 +62,10 @@ public final class ChoiceTest {
         Kit.due("cut: 99 less 29", x.game(0, 1, 3, 1, 0), 70);
         Kit.due("cut: 99 less 9", x.game(0, 1, 1, 1, 0), 90);
         x.clerk(0);
-        Kit.due("the CLERK looks AWAY", x.game(0, 0, 0, 2, 1), 5);
+        Kit.due("the CLERK looks AWAY", x.game(0, 0, 0, 2, 1), 0);
+        Kit.due("the CLERK looks AWAY", x.game(0, 1, 0, 2, 1), -19);
+        Kit.due("a thief, the CLERK looks AWAY", x.game(1, 0, 0, 2, 1), 5);
+        rests(x, 0, 0, 1);
         x.clerk(0);
         int hidden = NearlyBought.HIDDEN;
         Kit.due("no such BUYER", x.game(3, 0, 0, 0, 0), hidden);
@@ -77,6 +83,10 @@ public final class ChoiceTest {
         Kit.law(x, "y:10");
         rests(x, 0, 0, 0, 10, 20, 30);
         rests(x, 1, 0, 2, 12, 22, 32);
+        // Were nothing due while the CLERK looks AWAY, to touch it alone would be a REST.
+        x.clerk(0);
+        rests(x, 0, 0, 0, 10, 20, 30);
+        x.clerk(0);
         Kit.law(x, "y:20");
         rests(x, 0, 0, 0, 1, 2);
         x.pick(2, 0);

@@ -101,7 +101,7 @@ final class Model {
         }
 
         int wouldBeDue(int b, int t) {
-            if (away[things.get(t).shop] || buyers.get(b).kind == 2) {
+            if (buyers.get(b).kind == 2) {
                 return 0;
             }
             int due = (int) Math.floor(things.get(t).price * rate / 8.0);
@@ -143,7 +143,7 @@ final class Model {
             int t = holding(b);
             holder.remove(t);
             heldFor.remove(t);
-            int due = wouldBeDue(b, t);
+            int due = away[things.get(t).shop] ? 0 : wouldBeDue(b, t);
             if (due != 0) {
                 bills.add(new Bill(b, t, hour, due));
                 if (bills.size() == 25) {
