@@ -1,9 +1,7 @@
 /** Promise 4: fault, of each sort. */
 public final class FaultTest {
-    private static final NearlyBought X = new NearlyBought();
-
     private static void fault(int sort, String text, int want) {
-        Kit.due("fault(" + sort + ") of \"" + text + "\"", Kit.fault(X, sort, text), want);
+        Kit.due("fault(" + sort + ") of \"" + text + "\"", Kit.fault(new NearlyBought(), sort, text), want);
         Kit.due("the same another way: \"" + text + "\"", Recognizer.fault(sort, text), want);
     }
 
@@ -156,8 +154,8 @@ public final class FaultTest {
         cities();
         laws();
         days();
-        Kit.due("fault(3)", X.fault(3), -2);
-        Kit.due("fault(-1)", X.fault(-1), -2);
+        Kit.due("fault(3)", new NearlyBought().fault(3), -2);
+        Kit.due("fault(-1)", new NearlyBought().fault(-1), -2);
         Kit.end();
     }
 }

@@ -4,6 +4,7 @@ import java.util.NoSuchElementException;
 final class Kit {
     private static int wrong = 0;
     private static int asked = 0;
+    private static String about = "";
 
     private Kit() {
     }
@@ -12,12 +13,24 @@ final class Kit {
         asked++;
         if (got != want) {
             wrong++;
+            if (!about.isEmpty()) {
+                System.out.println("\"" + about + "\" does not hold:");
+            }
             System.out.println(call + " answered " + got + ", due is " + want);
         }
     }
 
     static void due(String call, boolean got, boolean want) {
         due(call, got ? 1 : 0, want ? 1 : 0);
+    }
+
+    /** The sentence of the document that is tested now; "": none. */
+    static void about(String sentence) {
+        about = sentence;
+    }
+
+    static int asked() {
+        return asked;
     }
 
     static void end() {
