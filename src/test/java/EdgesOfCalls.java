@@ -143,6 +143,7 @@ final class EdgesOfCalls {
                 Kit.due("no ACT", x.undo(), -1);
                 Kit.due("PURSE as told", x.buyer(0, 0), 30);
                 Kit.due("8 THINGS", Kit.text(x, 0, "t;t;t;t;t;t;t;t;b"), 8);
+                anotherCity();
             });
         Edge.promise(5, "a LAW, a DAY: its number.", () -> {
             NearlyBought x = new NearlyBought();
@@ -158,6 +159,18 @@ final class EdgesOfCalls {
                 Kit.due("that LAW", x.liking(0, 0), 10 + i);
                 Kit.due("that DAY", x.step(i, 0, 1), i);
             }
+            // What had a FAULT ahead of it leaves nothing in it.
+            NearlyBought y = Kit.city("t;b");
+            Kit.text(y, 1, "y:50;y:1=");
+            Kit.text(y, 2, "y7;y8;y9;y");
+            Kit.fault(y, 1, "y:60");
+            Kit.fault(y, 2, "h;h;h");
+            Kit.due("a LAW", Kit.text(y, 1, "y:70"), 0);
+            Kit.due("a DAY", Kit.text(y, 2, "b3"), 0);
+            y.law(0);
+            Kit.due("that LAW", y.liking(0, 0), 70);
+            Kit.due("that DAY", y.step(0, 0, 0) * 10 + y.step(0, 0, 1), 13);
+            Kit.due("one STEP", y.step(0, 1, 0), HIDDEN);
         });
         Edge.promise(5, "NONE: a FAULT,", () -> {
             String[] wrong = {"", "t", "y:", "p0"};
@@ -196,6 +209,31 @@ final class EdgesOfCalls {
             Kit.due("the fourth DAY", x.step(3, 0, 1), 3);
             Kit.due("another CITY", Kit.text(x, 0, "t;t;b"), 2);
         });
+    }
+
+    /** What was HELD, SOLD, owed and paid in a CITY is not so in another. */
+    private static void anotherCity() {
+        NearlyBought x = Kit.city("sr8y2;tp9w9;tp8;tp7;b;b");
+        Kit.law(x, "y:0");
+        Edge.touch(x, 0, 1);
+        x.pick(0, 0);
+        x.pick(1, 2);
+        x.buy(1);
+        Edge.hours(x, 3);
+        Edge.touch(x, 1, 1);
+        Kit.due("HELD ahead", x.thing(0, 5), 3);
+        Kit.due("SOLD ahead", x.all(8), 4);
+        Kit.due("TREASURY ahead", x.count(8), 8);
+        Kit.text(x, 0, "t;t;t;b;b;b");
+        for (int t = 0; t < 3; t++) {
+            thing(x, t, 20, 2, 0, -1, 0, 0);
+        }
+        for (int b = 0; b < 3; b++) {
+            buyer(x, b, 30, 5, 4, 0, -1, 0, 0);
+        }
+        Kit.due("SOLD, DUE, AFRAID", x.all(8) + x.all(10) + x.all(9), 0);
+        Kit.due("TREASURY, BILLS", x.count(8) + x.count(9), 0);
+        Kit.due("each can be PICKED UP", x.pick(0, 2) + x.pick(1, 0), 0);
     }
 
     private static void told() {
@@ -312,6 +350,8 @@ final class EdgesOfCalls {
                 Kit.due("law(" + law + ")", x.law(law), false);
                 Kit.due("it holds on", x.count(5), 0);
             }
+            Kit.due("on the TAPE alone", Kit.fault(x, 1, "y:8"), -1);
+            Kit.due("no such LAW", x.law(1), false);
         });
         Edge.promise(11, "TEMPTED (0 .. 9).", () -> {
             for (int v = 0; v <= 9; v++) {
@@ -603,6 +643,9 @@ final class EdgesOfCalls {
             outside(3, i -> x.step(0, i, 0), HIDDEN);
             outside(1, i -> x.step(1, i, 0), HIDDEN);
             outside(3, what -> x.step(1, 0, what), HIDDEN);
+            // What is on the TAPE alone is no DAY.
+            Kit.due("right as it is", Kit.fault(x, 2, "b1;b2"), -1);
+            outside(2, day -> x.step(day, 0, 0), HIDDEN);
         });
         Edge.promise(25, "RUN: behind how many (0; NONE: all can be), DUE (1).", () -> {
             NearlyBought x = Kit.city("sr8;tp9;b");
@@ -623,6 +666,8 @@ final class EdgesOfCalls {
             Kit.day(x, "h");
             outside(2, day -> x.run(day, 0), HIDDEN);
             outside(2, what -> x.run(1, what), HIDDEN);
+            Kit.due("on the TAPE alone", Kit.fault(x, 2, "h"), -1);
+            outside(2, day -> x.run(day, 0), HIDDEN);
         });
         Edge.promise(25, "no CITY.", () -> {
             bareRefused(x -> x.run(0, 0), HIDDEN, -1);
@@ -641,6 +686,10 @@ final class EdgesOfCalls {
             for (int i : outside(1)) {
                 refused(x -> x.perform(i), -1, -1);
             }
+            NearlyBought y = Kit.city("t;b");
+            Kit.due("on the TAPE alone", Kit.fault(y, 2, "h"), -1);
+            Kit.due("no such DAY", y.perform(0), -1);
+            Kit.due("HOUR", y.count(6), 0);
         });
         Edge.promise(26, "no CITY.", () -> bareRefused(x -> x.perform(0), -1, -1));
     }

@@ -126,6 +126,18 @@ final class EdgesOfOutlook {
             }
             Kit.due("TREASURY behind 61", x.treasury(61), -1);
             Kit.due("PURSE behind 61", x.purse(0, 61), -1);
+            // As HOURS that go by: he likes it by its WEIGHT, and HOLDS it as long as that tells.
+            String city = "sr8y6i1;tp40w7;tp21w1s2;tp60w4;bm50d4n9;bm70d5k1";
+            NearlyBought told = Kit.city(city);
+            NearlyBought gone = Kit.city(city);
+            gone.selling(0, 0);
+            told.selling(2, 0);
+            for (int n = 0; n <= 40; n++) {
+                Kit.due("TREASURY behind " + n, told.treasury(n), gone.count(8));
+                Kit.due("PURSE behind " + n, told.purse(0, n), gone.buyer(0, 0));
+                Kit.due("PURSE behind " + n, told.purse(1, n), gone.buyer(1, 0));
+                gone.hour();
+            }
         });
         Edge.terms("WHOSE a THING is behind n (0 .. 60) HOURS (who HOLDS it, or to whom it is SOLD).", () -> {
             NearlyBought x = Kit.city("tp99w0;t;bd0;b");
@@ -138,6 +150,16 @@ final class EdgesOfOutlook {
             Kit.due("PICKED UP behind that", x.whose(0, 1), 1);
             Kit.due("behind -1", x.whose(1, -1), -1);
             Kit.due("behind 61", x.whose(1, 61), -1);
+            String city = "sr8y6i1;tp40w7;tp21w1s2;tp60w4;bm50d4n9;bm70d5k1";
+            NearlyBought told = Kit.city(city);
+            NearlyBought gone = Kit.city(city);
+            told.selling(0, 0);
+            for (int n = 0; n <= 40; n++) {
+                for (int t = 0; t < 3; t++) {
+                    Kit.due("WHOSE behind " + n, told.whose(t, n), gone.thing(t, 3));
+                }
+                gone.hour();
+            }
         });
         Edge.terms("RAISES for n (1 .. 60): the RATE (0 .. 8), were it set now, by which TREASURY behind n HOURS is most", () -> {
             // PICKED UP in the first HOUR, put BACK in the third, which is MICHAELMAS.
@@ -189,6 +211,17 @@ final class EdgesOfOutlook {
             NearlyBought y = with("tp20;bk2", "y:w=7&h>3|h>9?20;y:1");
             Kit.due("fewest", y.selling(0, 0), 7);
             Kit.due("in", y.selling(0, 1), 5);
+            // One HOUR sooner is fewer.
+            NearlyBought later = with("tp20w9;bk2", "y:w=2&h>5|w=4&h>4|w=6&h>3|w=8&h>4?20;y:w=0&h>6?20;y:1");
+            Kit.due("fewest", later.selling(0, 0), 6);
+            Kit.due("in", later.selling(0, 1), 5);
+            // By none, behind another one that is SOLD by some.
+            NearlyBought two = Kit.city("tp27;tp99;b");
+            Kit.due("the first by 7", two.selling(0, 0), 7);
+            Kit.due("the second by none", two.selling(1, 0), -1);
+            Kit.due("in how many", two.selling(1, 1), -1);
+            two.raises(1, 1);
+            Kit.due("behind RAISES, too", two.selling(1, 0) + two.selling(1, 1), -2);
         });
         Edge.terms("(of several the least); in how many (1 ..).", () -> {
             NearlyBought x = with("tp20w5;b", "y:w>3?20;y:1");
@@ -281,6 +314,7 @@ final class EdgesOfOutlook {
             NearlyBought z = with("sr8;tp10w5;b", "y:10");
             seek(z, 0, 1, 0, 1);
             NearlyBought w = Kit.city("t;bk2;b");
+            seek(w, 0, 4, 5720, 10);
             w.pick(1, 0);
             seek(w, 0, 4, 0, 1);
         });
@@ -382,6 +416,13 @@ final class EdgesOfOutlook {
                 Kit.due("the last", last.ask(0), 60);
                 NearlyBought none = with("t;b", "y:0");
                 Kit.due("nothing ever", none.ask(0), 1);
+                // 0 and the others part at 3 (nine agree), 1 .. 4 and 5 .. 9 at 5 (five agree).
+                NearlyBought parting = with("sr8y30;tp20w0;tp30w0;bn9", "y:p=20&d>0?1;y:p=30&d>4?1");
+                Kit.due("the most, not those of 0", parting.ask(0), 5);
+                parting.seen(3, 20, true);
+                Kit.due("without 0", parting.ask(0), 5);
+                parting.seen(5, 50, true);
+                Kit.due("5 .. 9 agree always", parting.ask(0), 1);
             });
     }
 
@@ -403,6 +444,15 @@ final class EdgesOfOutlook {
             Kit.due("SOLD", x.game(0, 0, 0, 1, 0), NearlyBought.HIDDEN);
         });
         Edge.terms("y (0 leaves it, 1 takes it, 2 touches it alone): the seller has: y 1: PRICE less that; y 2: 1; else 0;", () -> {
+            NearlyBought several = with("sr4;tp50w1s1;tp30w9s3;bk1;b", "y:p+w");
+            int[][] sellers = {{0, 50, 1}, {0, 30, 1}};
+            int[][] buyers = {{0, 1, 12 - 25}, {0, 9, 9 - 15}};
+            for (int i = 0; i < 4; i++) {
+                for (int y = 0; y < 3; y++) {
+                    Kit.due("the seller of " + i % 2, several.game(1, i % 2, 0, y, 0), sellers[i % 2][y]);
+                    Kit.due("the BUYER of " + i % 2, several.game(1, i % 2, 0, y, 1), buyers[i % 2][y]);
+                }
+            }
             NearlyBought x = Kit.city("tp50;b");
             int[] taken = {50, 45, 40, 35};
             for (int off = 0; off <= 3; off++) {
@@ -439,6 +489,12 @@ final class EdgesOfOutlook {
             rests(with("tp20;bk2", "y:10"), 0, 2, 12, 22, 32);
             rests(with("tp20;bk2", "y:0"), 0, 0, 2, 10, 12, 20, 22, 30, 32);
             rests(with("sr2;tp20;b", "y:20"), 0, 0, 1, 2);
+            NearlyBought several = with("tp20;tp30;b", "y:p=30?29;y:22");
+            Kit.due("of the first", several.rests(0, 0, 0), 1);
+            // 29 by 4 less 7 due is nothing, as is leaving it; with something off he would take it, but then nothing is.
+            Kit.due("of the second", several.rests(0, 1, -1), 2);
+            Kit.due("leaving it", several.rests(0, 1, 0), 0);
+            Kit.due("touching it", several.rests(0, 1, 1), 2);
             NearlyBought x = Kit.city("t;b");
             x.pick(0, 0);
             x.buy(0);
@@ -571,6 +627,9 @@ final class EdgesOfOutlook {
                 last.pick(0, 1);
                 last.buy(0);
                 Kit.due("SOLD, too", last.all(4), 1);
+                NearlyBought liked = with("tp10w3;tp9w4;tp30w0;b", "y:p");
+                Kit.due("HEAVIEST, however it is liked", liked.all(5), 1);
+                Kit.due("WANTED", liked.all(12), 2);
             });
         Edge.terms("HOLDERS: BUYERS (bits) who HOLD one. FREE, SOLD: THINGS (bits).", () -> {
             NearlyBought x = Kit.city("t;t;t;t;t;t;t;t;b;b;b;b;b;b");
@@ -604,6 +663,11 @@ final class EdgesOfOutlook {
                 Kit.due("DUE is 6 times " + nerve, x.all(9), 0);
                 Edge.touch(x, 1, 0);
                 Kit.due("one above", x.all(9), 2);
+            }
+            NearlyBought all = Kit.city("sr8;tp1;bn0;bn0;bn0;bn0;bn0;bn0");
+            for (int b = 0; b < 6; b++) {
+                Edge.touch(all, b, 0);
+                Kit.due("AFRAID up to " + b, all.all(9), (2 << b) - 1);
             }
         });
         Edge.terms("DUE of all. AWAY: SHOPS (bits) whose CLERK looks AWAY.", () -> {

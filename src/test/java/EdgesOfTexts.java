@@ -213,6 +213,10 @@ final class EdgesOfTexts {
             fault(LAW, "y:1=1?1", -1);
             fault(LAW, "y:1=1?1?1", 7);
             fault(LAW, "y:1=1?1=1", 7);
+            // A LAW that fills the TAPE is told to its end.
+            worth("y:1=1?50" + times(58, "+1-1", ""), 50);
+            worth("y:1=2?1" + times(58, ";y:7", "") + " ", 7);
+            worth(times(29, "y:1=2?9;", "") + "y:p>1?61", 61);
         });
         Edge.terms("CONDITION: TRUTHS with | between; TRUTH: UNITS with & between;", () -> {
             fault(LAW, "y:1=1|?1", 6);
@@ -308,6 +312,12 @@ final class EdgesOfTexts {
             fault(LAW, "y:!(!(!([1]=1)))?1", 8);
             fault(LAW, "y:((([[[1]]]=1)))?1", -1);
             fault(LAW, "y:((([[[[1]]]]=1)))?1", 8);
+            fault(LAW, "y:1=[[[[[[1]]]]]]?1", -1);
+            fault(LAW, "y:1=[[[[[[[1]]]]]]]?1", 10);
+            fault(LAW, "y:1=1&[[[[[[1]]]]]]=1?1", -1);
+            fault(LAW, "y:1=1&1=[[[[[[[1]]]]]]]?1", 14);
+            fault(LAW, "y:1=1|!!!!!![1]=1?1", 12);
+            fault(LAW, "y:1=1|!!!!!!1=1?1", -1);
             // Side by side is not within one another.
             fault(LAW, "y:" + times(20, "[1]", "+"), -1);
             fault(LAW, "y:" + times(20, "!1=1", "&") + "?1", -1);
@@ -405,10 +415,36 @@ final class EdgesOfTexts {
                         fault(DAY, right[what].substring(0, digits) + ";h", digits);
                     }
                 }
+                eachStepDone();
                 for (char sign = 1; sign < 256; sign++) {
                     fault(DAY, String.valueOf(sign), sign == 'h' ? -1 : " pbgy".indexOf(sign) >= 0 ? 1 : 0);
                 }
             });
+    }
+
+    /** What each STEP tells is done, by RUN as by DO. */
+    private static void eachStepDone() {
+        NearlyBought x = Kit.city("sr8;t;tp9w9;t;b;b;bk1");
+        Kit.law(x, "y:0");
+        Kit.day(x, "p21;g20");
+        Kit.day(x, "h;b0");
+        Kit.day(x, "p01;g01;y1");
+        Kit.day(x, "b1");
+        Kit.due("RUN: HANDED on", x.run(0, 0), -1);
+        Kit.due("PICKED UP and HANDED on", x.perform(0), 2);
+        Kit.due("the second digit's THING and BUYER", x.thing(1, 3), 0);
+        Kit.due("the first HOLDS none", x.buyer(2, 4), -1);
+        Kit.due("RUN: what he puts BACK who has it is due in full", x.run(1, 1), 9);
+        Kit.due("an HOUR, put BACK", x.perform(1), 2);
+        Kit.due("HOUR", x.count(6), 1);
+        Kit.due("BILL", x.bill(0, 0, 0), 1);
+        Kit.due("written in", x.bill(0, 0, 1), 1);
+        Kit.due("RUN: BOUGHT", x.run(2, 0), -1);
+        Kit.due("HANDED on and BOUGHT", x.perform(2), 3);
+        Kit.due("SOLD", x.all(8), 2);
+        Kit.due("to the second", x.thing(1, 3), 1);
+        Kit.due("PURSE", x.buyer(1, 0), 21);
+        Kit.due("he HOLDS none", x.run(3, 0), 0);
     }
 
     private static void blanks() {
@@ -447,6 +483,19 @@ final class EdgesOfTexts {
             fault(LAW, "y:p+q+q", 4);
             fault(DAY, "h;p0x;q", 4);
             fault(DAY, "h\u00ff", 1);
+            // Asked again, and behind other texts, it is the same.
+            NearlyBought x = new NearlyBought();
+            String[] texts = {"s;t;b;b;b;b", "s;t", "t;b;b;b", "b;s;x", "y:1=1?[1", "y:1", "h;h;h;q", "p00;b0", "b1;b"};
+            int[][] faults = {{-1, 0, 0}, {3, 0, 0}, {-1, 0, 0}, {4, 0, 1}, {0, 8, 1}, {0, -1, 1}, {0, 0, 6}, {0, 0, -1},
+                {1, 0, 4}};
+            for (int i = 0; i < 3 * texts.length; i++) {
+                String text = texts[i * 4 % texts.length];
+                for (int sort = 0; sort < 3; sort++) {
+                    int want = faults[i * 4 % texts.length][sort];
+                    Kit.due("fault(" + sort + ") of \"" + text + "\"", Kit.fault(x, sort, text), want);
+                    Kit.due("asked again", x.fault(sort), want);
+                }
+            }
         });
         Edge.terms("(the length, if it ends too early, without a THING, without a BUYER):", () -> {
             fault(CITY, "", 0);
@@ -500,6 +549,7 @@ final class EdgesOfTexts {
             fault(CITY, full + ";s", 30);
             fault(CITY, full + ";t", 30);
             fault(CITY, full + ";b", 30);
+            fault(CITY, full + ";  t", 32);
         });
         Edge.terms("the ; ahead of a 17th STEP,", () -> {
             fault(DAY, times(16, "h", ";"), -1);

@@ -373,6 +373,16 @@ final class EdgesOfTrade {
             y.pick(0, 0);
             y.hour();
             Kit.due("another's BILL is none of his", y.buyer(1, 4), 1);
+            // Of several BILLS each one counts, whoever's the others are.
+            NearlyBought bills = Kit.city("sr1;tp99w5;tp98w4;tp97w3;tp96w2;tp95w1;bd0n9;bd0n9");
+            Edge.touch(bills, 1, 4);
+            Edge.touch(bills, 0, 0);
+            Edge.touch(bills, 1, 2);
+            Edge.touch(bills, 0, 1);
+            Edge.touch(bills, 0, 2);
+            bills.hour();
+            Kit.due("not 0, 1, 2", bills.buyer(0, 4), 3);
+            Kit.due("not 2 and 4", bills.buyer(1, 4), 0);
             for (int liking = 0; liking <= 1; liking++) {
                 NearlyBought z = Kit.city("t;b");
                 Kit.law(z, "y:" + liking);
