@@ -2,6 +2,7 @@ import java.lang.reflect.InvocationTargetException;
 import java.lang.reflect.Method;
 import java.util.ArrayList;
 import java.util.Arrays;
+import java.util.Collections;
 import java.util.List;
 import java.util.NoSuchElementException;
 import java.util.Random;
@@ -27,11 +28,16 @@ public final class RandomTest {
         return below(8) == 0 ? " " : "";
     }
 
-    private String items(String letters, int... highest) {
+    /** A number within bounds, these themselves more often than others. */
+    private int within(int low, int high) {
+        return below(4) > 0 ? low + below(high - low + 1) : below(2) == 0 ? low : high;
+    }
+
+    private String items(String letters, int[] lowest, int... highest) {
         StringBuilder s = new StringBuilder();
         for (int i = 0; i < letters.length(); i++) {
             if (below(3) > 0) {
-                s.append(blank()).append(letters.charAt(i)).append(blank()).append(1 + below(highest[i]));
+                s.append(blank()).append(letters.charAt(i)).append(blank()).append(within(lowest[i], highest[i]));
             }
         }
         return s.toString();
@@ -40,18 +46,30 @@ public final class RandomTest {
     private String cityText() {
         List<String> clauses = new ArrayList<>();
         if (below(3) > 0) {
-            clauses.add("s" + items("rhyi", 8, 9, below(2) == 0 ? 6 : 29, 30).replace("y1", "y2"));
+            clauses.add("s" + items("rhyi", new int[] {0, 0, 2, 0}, 8, 9, below(2) == 0 ? 6 : 30, 30));
         }
         int things = 1 + below(8);
         int buyers = 1 + below(6);
         for (int i = 0; i < things; i++) {
-            clauses.add("t" + items("pws", below(2) == 0 ? 40 : 99, 9, 3));
+            clauses.add("t" + items("pws", new int[] {1, 0, 0}, below(2) == 0 ? 40 : 99, 9, 3));
         }
         for (int i = 0; i < buyers; i++) {
-            clauses.add("b" + items("mdnk", 99, 9, 9, 2));
+            clauses.add("b" + items("mdnk", new int[4], 99, 9, 9, 2));
         }
-        java.util.Collections.shuffle(clauses, random);
+        Collections.shuffle(clauses, random);
         return String.join(blank() + ";" + blank(), clauses);
+    }
+
+    /** A CITY in which much is touched and little bought, so that the TREASURY is full soon. */
+    private String dearCityText() {
+        StringBuilder s = new StringBuilder("sr8h").append(below(10)).append('y').append(2 + below(3)).append("i30");
+        for (int n = 2 + below(4); n > 0; n--) {
+            s.append(";tp").append(50 + below(50)).append('w').append(below(3)).append('s').append(below(4));
+        }
+        for (int n = 4 + below(3); n > 0; n--) {
+            s.append(";bn9d").append(below(6)).append('k').append(below(5) / 4);
+        }
+        return s.toString();
     }
 
     private String atom(int depth) {
@@ -171,15 +189,25 @@ public final class RandomTest {
         if (text.length() > 240) {
             return true;
         }
+        String fed = withZeros(text);
         boolean right = call("end", 0);
-        for (int at = 0; at < text.length(); at += 20) {
-            right &= call("feed", Kit.word(text, at), Kit.word(text, at + 4), Kit.word(text, at + 8),
-                Kit.word(text, at + 12), Kit.word(text, at + 16));
+        for (int at = 0; at < fed.length(); at += 20) {
+            right &= call("feed", Kit.word(fed, at), Kit.word(fed, at + 4), Kit.word(fed, at + 8),
+                Kit.word(fed, at + 12), Kit.word(fed, at + 16));
         }
         for (int other = 0; other < 3; other++) {
             right &= call("fault", other);
         }
         return right && call("text", sort);
+    }
+
+    /** Bytes of 0, which do not come to the TAPE, stand anywhere. */
+    private String withZeros(String text) {
+        StringBuilder s = new StringBuilder(text);
+        for (int n = below(3); n > 0; n--) {
+            s.insert(below(s.length() + 1), (char) 0);
+        }
+        return s.toString();
     }
 
     private boolean tellSome() {
@@ -262,20 +290,48 @@ public final class RandomTest {
         if (!tellSome() || !tell(0, cityText())) {
             return false;
         }
+        return actsAndLooks(length) && sameState();
+    }
+
+    private boolean actsAndLooks(int length) {
         for (int i = 0; i < length; i++) {
             boolean right = below(25) == 0 ? tellSome() : below(2) == 0 ? act() : look();
             if (!right) {
                 return false;
             }
         }
-        return sameState();
+        return true;
+    }
+
+    /** Near the last HOUR. */
+    private boolean runsLate() {
+        return tell(0, cityText()) && goesOn(9999 - below(40), 10000) && actsAndLooks(30) && sameState();
+    }
+
+    /** With a TREASURY that is nearly full. */
+    private boolean runsRich() {
+        return tell(0, dearCityText()) && call("tempted", below(2)) && goesOn(3000, 9000) && actsAndLooks(60)
+            && sameState();
+    }
+
+    /** YEARS up to that HOUR, or until so much is in the TREASURY. */
+    private boolean goesOn(int hour, int treasury) {
+        boolean right = true;
+        while (right && model.city != null && model.now.hour < hour && model.now.treasury < treasury) {
+            right = call("years", Math.min(30, hour - model.now.hour), random.nextLong());
+        }
+        return right;
     }
 
     public static void main(String[] args) {
         int most = args.length > 0 ? Integer.parseInt(args[0]) : 400;
         int from = args.length > 1 ? Integer.parseInt(args[1]) : 0;
         for (int seed = from; seed < from + most; seed++) {
-            if (!new RandomTest(seed).runs(300)) {
+            boolean right = new RandomTest(seed).runs(300);
+            if (right && seed % 10 == 0) {
+                right = new RandomTest(seed).runsRich() && new RandomTest(seed).runsLate();
+            }
+            if (!right) {
                 System.out.println("seed " + seed);
                 System.exit(1);
             }
